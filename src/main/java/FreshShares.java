@@ -848,8 +848,10 @@ public final class FreshShares {
 
         private void pour(int m, int length) {
             for (int i = 1; i <= MEMBERS; i++) {
-                int part = Sums.times(factors[m], polynomialAt(polynomials, m, length, i));
-                circle.shares[i] = Sums.plus(circle.shares[i], part);
+                if (Sets.has(circle.holders, i)) {
+                    int part = Sums.times(factors[m], polynomialAt(polynomials, m, length, i));
+                    circle.shares[i] = Sums.plus(circle.shares[i], part);
+                }
             }
             for (int j = 0; j < length && j < ROW_LENGTH; j++) {
                 int part = Sums.raised(Sums.sealOf(polynomials[m * ROW_LENGTH + j]), factors[m]);

@@ -40,6 +40,7 @@ public final class PromisesTest {
         thief();
         image();
         restore();
+        restoreAmongTwo();
         count();
         System.out.println(wrong == 0 ? "all promises hold" : wrong + " answers are not as due");
         if (wrong != 0) {
@@ -390,10 +391,12 @@ public final class PromisesTest {
         due("8: 2 lies", NO, order(x, "b4123"));
         due("8: 2 is named", 4, x.named(0));
         due("8: none yet", NONE, x.member(4, 0));
+        fill(x, 6, 0, 3, 20);
+        order(x, "f");
         due("8: enough others", 1, order(x, "b41235"));
         due("8: 2 is named, too", 4, x.named(0));
-        due("8: rebuilt", at(4, 17, 5, 9), x.member(4, 0));
-        due("8: epoch stays", 0, x.count(1));
+        due("8: rebuilt", at(4, 17, 8, 6), x.member(4, 0));
+        due("8: epoch stays", 1, x.count(1));
         due("8: it has one, ahead of all else", NO, order(x, "b412"));
         due("8: nobody is named then", 0, x.named(0));
     }
@@ -855,6 +858,33 @@ public final class PromisesTest {
         due("17: again", 1, x.restore(0));
         due("17: all as it was, again", 0, Arrays.compare(before, facts(x)));
         due("17: the text is as it is", 0, x.count(6));
+    }
+
+    private static void restoreAmongTwo() {
+        FreshShares x = dealt(9, 1, 2);
+        x.image(0);
+        x.bent(3, 4, 0);
+        x.bent(5, 3, 3);
+        order(x, "t4124");
+        order(x, "t51247");
+        order(x, "f");
+        due("17: 3 is struck", 8, x.named(1));
+        x.image(1);
+        order(x, "w1");
+        x.restore(0);
+        due("17: nobody is struck", 0, x.named(1));
+        for (int k = 0; k < 4; k++) {
+            order(x, "d1");
+        }
+        due("17: another epoch 1", 1, x.count(11));
+        x.restore(1);
+        due("17: struck as it was", 8, x.named(1));
+        int[] thresholds = {3, 4, 5, 5};
+        for (int e = 0; e < thresholds.length; e++) {
+            due("17: threshold of epoch " + e, thresholds[e], x.count(10 + e));
+        }
+        due("17: no epoch more", OUTSIDE, x.count(14));
+        due("17: worlds of an older threshold", 12167, x.worlds(1, 0));
     }
 
     /** All that can be asked, but what tells of images. */
