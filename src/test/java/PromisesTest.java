@@ -55,32 +55,6 @@ public final class PromisesTest {
         }
     }
 
-    /** Says a text in place of the one that stands there, and acts. */
-    private static int order(FreshShares x, String text) {
-        write(x, text);
-        return x.act();
-    }
-
-    private static void write(FreshShares x, String text) {
-        x.wipe();
-        for (int i = 0; i < text.length(); i++) {
-            x.say(text.charAt(i));
-        }
-    }
-
-    private static void fill(FreshShares x, int who, int... values) {
-        for (int j = 0; j < values.length; j++) {
-            x.row(who, j, values[j]);
-        }
-    }
-
-    private static FreshShares dealt(int... values) {
-        FreshShares x = new FreshShares();
-        fill(x, 0, values);
-        order(x, "d" + values.length);
-        return x;
-    }
-
     private static int at(int i, int... values) {
         int sum = 0;
         for (int j = values.length - 1; j >= 0; j--) {
@@ -89,7 +63,7 @@ public final class PromisesTest {
         return sum;
     }
 
-    private static void sharesAre(String what, FreshShares x, int... values) {
+    private static void sharesAre(String what, Counted x, int... values) {
         for (int m = 1; m <= 7; m++) {
             due(what + ": SHARE of " + m, at(m, values), x.member(m, 0));
         }
@@ -145,7 +119,7 @@ public final class PromisesTest {
     }
 
     private static void newObject() {
-        FreshShares x = new FreshShares();
+        Counted x = new Counted();
         due("1: threshold", NONE, x.count(0));
         due("1: epoch", NONE, x.count(1));
         for (int what = 2; what <= 7; what++) {
@@ -172,7 +146,7 @@ public final class PromisesTest {
     }
 
     private static void row() {
-        FreshShares x = new FreshShares();
+        Counted x = new Counted();
         for (int who = 0; who <= 7; who++) {
             for (int j = 0; j <= 4; j++) {
                 due("2: at first", 0, x.row(who, j, who + j + 1));
@@ -199,7 +173,7 @@ public final class PromisesTest {
     }
 
     private static void bent() {
-        FreshShares x = new FreshShares();
+        Counted x = new Counted();
         int[] highest = {22, 22, 7, 7, 1};
         for (int m = 1; m <= 7; m++) {
             for (int what = 0; what <= 4; what++) {
@@ -224,7 +198,7 @@ public final class PromisesTest {
     }
 
     private static void member() {
-        FreshShares x = dealt(17, 5, 9);
+        Counted x = Counted.dealt(17, 5, 9);
         due("4: share", 8, x.member(1, 0));
         due("4: tells", 8, x.member(1, 1));
         due("4: fits", 1, x.member(1, 2));
@@ -240,11 +214,11 @@ public final class PromisesTest {
         for (int k = 0; k < 5; k++) {
             due("4: bend " + k, bends[k], x.member(1, 3 + k));
         }
-        fill(x, 1, 1, 2, 3, 4, 5);
+        x.fill(1, 1, 2, 3, 4, 5);
         for (int k = 0; k < 5; k++) {
             due("4: row " + k, k + 1, x.member(1, 10 + k));
         }
-        order(x, "w1");
+        x.order("w1");
         for (int what = 0; what <= 2; what++) {
             due("4: none", NONE, x.member(1, what));
         }
@@ -258,7 +232,7 @@ public final class PromisesTest {
     }
 
     private static void say() {
-        FreshShares x = new FreshShares();
+        Counted x = new Counted();
         due("5: lowest", 1, x.say(33));
         due("5: highest", 2, x.say(126));
         for (int sign : new int[] {32, 127, 0, -1, LOW, HIGH}) {
@@ -273,9 +247,9 @@ public final class PromisesTest {
     }
 
     private static void wipe() {
-        FreshShares x = new FreshShares();
+        Counted x = new Counted();
         due("6: empty", 0, x.wipe());
-        write(x, "o1");
+        x.write("o1");
         due("6: two", 2, x.wipe());
         due("6: empty again", 0, x.count(6));
         due("6: fault of the empty text", 0, x.fault());
@@ -284,8 +258,8 @@ public final class PromisesTest {
     }
 
     private static void faultIs(int want, String text) {
-        FreshShares x = new FreshShares();
-        write(x, text);
+        Counted x = new Counted();
+        x.write(text);
         due("7: fault of '" + text + "'", want, x.fault());
         due("7: fault changes nothing", text.length(), x.count(6));
         if (want != NONE) {
@@ -327,104 +301,104 @@ public final class PromisesTest {
     }
 
     private static void actDeal() {
-        FreshShares x = new FreshShares();
-        fill(x, 0, 17, 5, 9, 22, 1);
+        Counted x = new Counted();
+        x.fill(0, 17, 5, 9, 22, 1);
         int[] values = {17, 5, 9, 22, 1};
         for (int n = 1; n <= 5; n++) {
-            due("8: d" + n, 1, order(x, "d" + n));
+            due("8: d" + n, 1, x.order("d" + n));
             due("8: text is empty", 0, x.count(6));
             due("8: threshold", n, x.count(0));
             due("8: epoch", n - 1, x.count(1));
             due("8: all have one", 254, x.count(3));
             sharesAre("8: d" + n, x, Arrays.copyOf(values, n));
         }
-        order(x, "w3");
-        order(x, "d2");
+        x.order("w3");
+        x.order("d2");
         sharesAre("8: dealt to those who had none", x, 17, 5);
         x.row(0, 0, 3);
         sharesAre("8: a new ROW alone changes nothing", x, 17, 5);
     }
 
     private static void actWipe() {
-        FreshShares x = dealt(4, 4);
-        due("8: w3", 6, order(x, "w3"));
-        due("8: w3 again", 6, order(x, "w3"));
+        Counted x = Counted.dealt(4, 4);
+        due("8: w3", 6, x.order("w3"));
+        due("8: w3 again", 6, x.order("w3"));
         due("8: those who have one", 254 - 8, x.count(3));
         due("8: orders done", 3, x.count(5));
         for (String text : new String[] {"w1", "w2", "w4", "w5", "w6"}) {
-            order(x, text);
+            x.order(text);
         }
-        due("8: w7", 0, order(x, "w7"));
+        due("8: w7", 0, x.order("w7"));
         due("8: epoch stays", 0, x.count(1));
     }
 
     private static void actOpen() {
-        FreshShares x = dealt(17, 5, 9);
-        due("8: o123", 17, order(x, "o123"));
-        due("8: o357", 17, order(x, "o357"));
-        due("8: o1234567", 17, order(x, "o1234567"));
-        due("8: o57", NO, order(x, "o57"));
+        Counted x = Counted.dealt(17, 5, 9);
+        due("8: o123", 17, x.order("o123"));
+        due("8: o357", 17, x.order("o357"));
+        due("8: o1234567", 17, x.order("o1234567"));
+        due("8: o57", NO, x.order("o57"));
         due("8: text stays", 3, x.count(6));
-        order(x, "w2");
-        due("8: 2 has none", NO, order(x, "o123"));
+        x.order("w2");
+        due("8: 2 has none", NO, x.order("o123"));
         due("8: no liars", 0, x.named(0));
-        due("8: 2 has none, enough", 17, order(x, "o1234"));
+        due("8: 2 has none, enough", 17, x.order("o1234"));
         x.bent(1, 0, 1);
-        due("8: 1 lies", NO, order(x, "o134"));
+        due("8: 1 lies", NO, x.order("o134"));
         due("8: 1 is a liar", 2, x.named(0));
         x.bent(7, 0, 22);
-        due("8: two lie", 17, order(x, "o1234567"));
+        due("8: two lie", 17, x.order("o1234567"));
         due("8: both are liars", 2 + 128, x.named(0));
         x.bent(2, 0, 3);
-        due("8: who has no SHARE is no liar", 17, order(x, "o2345"));
+        due("8: who has no SHARE is no liar", 17, x.order("o2345"));
         due("8: no liar", 0, x.named(0));
     }
 
     private static void actRebuild() {
-        FreshShares x = dealt(17, 5, 9);
-        due("8: it has one", NO, order(x, "b4123"));
-        order(x, "w4");
-        due("8: fewer", NO, order(x, "b412"));
-        due("8: itself does not count", NO, order(x, "b4124"));
+        Counted x = Counted.dealt(17, 5, 9);
+        due("8: it has one", NO, x.order("b4123"));
+        x.order("w4");
+        due("8: fewer", NO, x.order("b412"));
+        due("8: itself does not count", NO, x.order("b4124"));
         due("8: text stays", 5, x.count(6));
         x.bent(2, 0, 9);
-        due("8: 2 lies", NO, order(x, "b4123"));
+        due("8: 2 lies", NO, x.order("b4123"));
         due("8: 2 is named", 4, x.named(0));
         due("8: none yet", NONE, x.member(4, 0));
-        fill(x, 6, 0, 3, 20);
-        order(x, "f");
-        due("8: enough others", 1, order(x, "b41235"));
+        x.fill(6, 0, 3, 20);
+        x.order("f");
+        due("8: enough others", 1, x.order("b41235"));
         due("8: 2 is named, too", 4, x.named(0));
         due("8: rebuilt", at(4, 17, 8, 6), x.member(4, 0));
         due("8: epoch stays", 1, x.count(1));
-        due("8: it has one, ahead of all else", NO, order(x, "b412"));
+        due("8: it has one, ahead of all else", NO, x.order("b412"));
         due("8: nobody is named then", 0, x.named(0));
     }
 
     private static void actFresh() {
-        FreshShares x = dealt(17, 5, 9);
-        fill(x, 1, 13, 4, 1, 8, 8);
-        fill(x, 2, 13, 0, 6, 8, 8);
-        fill(x, 7, 13, 20, 20, 8, 8);
-        due("8: f", 7, order(x, "f"));
+        Counted x = Counted.dealt(17, 5, 9);
+        x.fill(1, 13, 4, 1, 8, 8);
+        x.fill(2, 13, 0, 6, 8, 8);
+        x.fill(7, 13, 20, 20, 8, 8);
+        due("8: f", 7, x.order("f"));
         sharesAre("8: f", x, 17, (5 + 4 + 20) % 23, (9 + 1 + 6 + 20) % 23);
         due("8: epoch", 1, x.count(1));
         due("8: threshold", 3, x.count(0));
-        order(x, "w7");
-        due("8: f of six", 6, order(x, "f"));
+        x.order("w7");
+        due("8: f of six", 6, x.order("f"));
         due("8: 7 has none", NONE, x.member(7, 0));
         due("8: seal", (5 + 4 + 20 + 4) % 23, exponent(x.seal(1)));
-        due("8: b7", 1, order(x, "b7123"));
+        due("8: b7", 1, x.order("b7123"));
         sharesAre("8: 7's row was not taken", x, 17, (5 + 4 + 20 + 4) % 23, (9 + 1 + 6 + 20 + 1 + 6) % 23);
         for (int m = 1; m <= 7; m++) {
-            order(x, "w" + m);
+            x.order("w" + m);
         }
-        due("8: f of nobody", 0, order(x, "f"));
+        due("8: f of nobody", 0, x.order("f"));
         due("8: epoch all the same", 3, x.count(1));
 
-        FreshShares y = dealt(6);
-        fill(y, 3, 1, 2, 3, 4, 5);
-        due("8: f of threshold 1", 7, order(y, "f"));
+        Counted y = Counted.dealt(6);
+        y.fill(3, 1, 2, 3, 4, 5);
+        due("8: f of threshold 1", 7, y.order("f"));
         sharesAre("8: f of threshold 1", y, 6);
     }
 
@@ -440,63 +414,63 @@ public final class PromisesTest {
     }
 
     private static void actSpread() {
-        FreshShares x = dealt(3, 8);
-        fill(x, 5, 0, 11);
+        Counted x = Counted.dealt(3, 8);
+        x.fill(5, 0, 11);
         x.bent(5, 2, 6);
         x.bent(5, 1, 4);
-        due("8: 5 slips, and answers", 7, order(x, "f"));
+        due("8: 5 slips, and answers", 7, x.order("f"));
         due("8: no liars", 0, x.named(0));
         due("8: none struck", 0, x.named(1));
         sharesAre("8: each has what is right", x, 3, 19);
 
         x.bent(6, 3, 5);
-        order(x, "f");
+        x.order("f");
         due("8: a grudge of what does not FIT is no lie", 0, x.named(0));
         x.bent(4, 3, 5);
-        order(x, "f");
+        x.order("f");
         due("8: a grudge of what does FIT is one", 16, x.named(0));
 
         x.bent(5, 4, 0);
-        due("8: 5 does not answer", 6, order(x, "f"));
+        due("8: 5 does not answer", 6, x.order("f"));
         due("8: 5 is struck", 32, x.named(1));
         due("8: who complained of the struck is no liar", 0, x.named(0));
         due("8: 5 has none", NONE, x.member(5, 0));
         due("8: its row is not taken", (19 + 11 + 11) % 23, exponent(x.seal(1)));
-        due("8: 5 spreads no more", 6, order(x, "f"));
+        due("8: 5 spreads no more", 6, x.order("f"));
         due("8: so nobody is struck", 0, x.named(1));
 
-        FreshShares y = dealt(3, 8);
+        Counted y = Counted.dealt(3, 8);
         y.bent(2, 2, 3);
         y.bent(2, 4, 0);
-        due("8: a slip of 0 fits", 7, order(y, "f"));
+        due("8: a slip of 0 fits", 7, y.order("f"));
         y.bent(2, 1, 1);
-        order(y, "w3");
-        due("8: a foe without a SHARE is sent nothing", 6, order(y, "f"));
+        y.order("w3");
+        due("8: a foe without a SHARE is sent nothing", 6, y.order("f"));
         y.bent(2, 2, 2);
-        due("8: one's own foe", 5, order(y, "f"));
+        due("8: one's own foe", 5, y.order("f"));
         due("8: is struck", 4, y.named(1));
 
-        FreshShares z = dealt(3, 8);
+        Counted z = Counted.dealt(3, 8);
         z.bent(1, 4, 0);
         z.bent(1, 3, 2);
         z.bent(2, 4, 0);
         z.bent(2, 3, 1);
-        due("8: the struck still complain", 5, order(z, "f"));
+        due("8: the struck still complain", 5, z.order("f"));
         due("8: both are struck", 6, z.named(1));
 
-        FreshShares own = dealt(3, 8);
+        Counted own = Counted.dealt(3, 8);
         own.bent(4, 3, 4);
-        due("8: one's own grudge", 7, order(own, "f"));
+        due("8: one's own grudge", 7, own.order("f"));
         due("8: makes a liar", 16, own.named(0));
     }
 
     private static void actMove() {
-        FreshShares x = dealt(17, 5, 9);
+        Counted x = Counted.dealt(17, 5, 9);
         for (int m = 1; m <= 7; m++) {
-            fill(x, m, 12, m, 2 * m, 3 * m, 22 - m);
+            x.fill(m, 12, m, 2 * m, 3 * m, 22 - m);
         }
-        order(x, "w7");
-        due("8: t4", 6, order(x, "t413567"));
+        x.order("w7");
+        due("8: t4", 6, x.order("t413567"));
         due("8: threshold", 4, x.count(0));
         due("8: epoch", 1, x.count(1));
         due("8: of the old epoch", 3, x.count(10));
@@ -505,22 +479,22 @@ public final class PromisesTest {
         int w3 = x.weighs(3, 42, 0);
         int w5 = x.weighs(5, 42, 0);
         int slope = (w1 + 3 * w3 + 5 * w5) % 23;
-        order(x, "b71234");
+        x.order("b71234");
         sharesAre("8: the first three were taken", x, 17, slope, 2 * slope % 23, 3 * slope % 23);
-        due("8: three are too few now", NO, order(x, "o123"));
-        due("8: four are not", 17, order(x, "o1235"));
-        due("8: t1", 7, order(x, "t11234567"));
+        due("8: three are too few now", NO, x.order("o123"));
+        due("8: four are not", 17, x.order("o1235"));
+        due("8: t1", 7, x.order("t11234567"));
         sharesAre("8: t1", x, 17);
-        due("8: one is enough now", 17, order(x, "o6"));
-        due("8: t5", 7, order(x, "t52"));
-        due("8: five are needed now", 17, order(x, "o12345"));
+        due("8: one is enough now", 17, x.order("o6"));
+        due("8: t5", 7, x.order("t52"));
+        due("8: five are needed now", 17, x.order("o12345"));
 
-        FreshShares y = dealt(3, 8);
+        Counted y = Counted.dealt(3, 8);
         y.bent(2, 0, 5);
         y.bent(4, 4, 0);
         y.bent(6, 3, 4);
         y.bent(7, 0, 1);
-        due("8: fewer are taken", NO, order(y, "t3246"));
+        due("8: fewer are taken", NO, y.order("t3246"));
         due("8: 2 is named", 4, y.named(0));
         due("8: 4 is struck", 16, y.named(1));
         due("8: text stays", 5, y.count(6));
@@ -528,86 +502,86 @@ public final class PromisesTest {
         due("8: epoch stays", 0, y.count(1));
         sharesAre("8: nothing is changed", y, 3, 8);
         y.bent(5, 3, 3);
-        due("8: enough are taken", 6, order(y, "t323467"));
+        due("8: enough are taken", 6, y.order("t323467"));
         due("8: those behind are not asked", 4 + 32, y.named(0));
         due("8: 4 is struck for good", 16, y.named(1));
         due("8: 4 has none", NONE, y.member(4, 0));
-        due("8: open", 3, order(y, "o1356"));
+        due("8: open", 3, y.order("o1356"));
     }
 
     private static void actSteal() {
-        FreshShares x = dealt(17, 5, 9);
+        Counted x = Counted.dealt(17, 5, 9);
         x.bent(1, 0, 2);
-        due("8: s1", 1, order(x, "s1"));
+        due("8: s1", 1, x.order("s1"));
         due("8: what is stolen is no lie", 8, x.loot(0, 2));
         due("8: 1 still has it", 8, x.member(1, 0));
-        order(x, "w2");
-        due("8: 2 has none", NO, order(x, "s2"));
+        x.order("w2");
+        due("8: 2 has none", NO, x.order("s2"));
         due("8: none more", 1, x.count(4));
         for (int n = 2; n <= 24; n++) {
-            due("8: s3", n, order(x, "s3"));
+            due("8: s3", n, x.order("s3"));
         }
-        due("8: full", FULL, order(x, "s3"));
-        due("8: FULL ahead of NO", FULL, order(x, "s2"));
+        due("8: full", FULL, x.order("s3"));
+        due("8: FULL ahead of NO", FULL, x.order("s2"));
         due("8: 24 they stay", 24, x.count(4));
     }
 
     private static void actRefused() {
-        FreshShares x = new FreshShares();
+        Counted x = new Counted();
         for (String text : new String[] {"f", "o1", "w1", "b12", "t11", "s1"}) {
-            due("8: nothing was dealt: " + text, STATE, order(x, text));
+            due("8: nothing was dealt: " + text, STATE, x.order(text));
             due("8: text stays", text.length(), x.count(6));
-            due("8: FAULT is first", FAULT, order(x, text + "!"));
+            due("8: FAULT is first", FAULT, x.order(text + "!"));
         }
         due("8: none done", 0, x.count(5));
-        due("8: the empty text", FAULT, order(x, ""));
-        due("8: d1", 1, order(x, "d1"));
+        due("8: the empty text", FAULT, x.order(""));
+        due("8: d1", 1, x.order("d1"));
         due("8: one done", 1, x.count(5));
     }
 
     private static void actAtLastEpoch() {
-        FreshShares x = dealt(17, 5);
+        Counted x = Counted.dealt(17, 5);
         for (int e = 1; e <= 199; e++) {
             x.say('f');
             due("8: f", 7, x.act());
         }
         due("8: the last epoch", 199, x.count(1));
         x.bent(2, 0, 4);
-        order(x, "o12");
+        x.order("o12");
         due("8: 2 is named", 4, x.named(0));
         for (String text : new String[] {"d2", "f", "t213", "t22"}) {
-            due("8: full: " + text, FULL, order(x, text));
+            due("8: full: " + text, FULL, x.order(text));
             due("9: nobody is named", 0, x.named(0));
         }
         due("8: epoch stays", 199, x.count(1));
         due("18: its threshold", 2, x.count(209));
         due("18: none behind", OUTSIDE, x.count(210));
-        due("8: s1", 1, order(x, "s1"));
+        due("8: s1", 1, x.order("s1"));
         due("13: its epoch", 199, x.loot(0, 1));
         due("14: worlds", 1, x.worlds(199, 0));
         due("14: none behind", OUTSIDE, x.worlds(200, 0));
     }
 
     private static void named() {
-        FreshShares x = dealt(3, 8);
+        Counted x = Counted.dealt(3, 8);
         x.bent(2, 0, 5);
-        order(x, "o123");
+        x.order("o123");
         due("9: done", 4, x.named(0));
-        order(x, "o1x");
+        x.order("o1x");
         due("9: a FAULT changes nothing", 4, x.named(0));
-        order(x, "o12");
+        x.order("o12");
         due("9: refused", 4, x.named(0));
-        order(x, "w7");
+        x.order("w7");
         due("9: w names nobody", 0, x.named(0));
         x.bent(3, 4, 0);
         x.bent(4, 3, 3);
-        order(x, "t123");
+        x.order("t123");
         due("9: liars", 4, x.named(0));
         due("9: struck", 8, x.named(1));
         for (String text : new String[] {"s1", "d2", "s1"}) {
-            order(x, "t123");
+            x.order("t123");
             due("9: struck again", 8, x.named(1));
-            order(x, text);
+            x.order(text);
             due("9: liars of " + text, 0, x.named(0));
             due("9: struck of " + text, 0, x.named(1));
         }
@@ -617,7 +591,7 @@ public final class PromisesTest {
     }
 
     private static void fits() {
-        FreshShares x = new FreshShares();
+        Counted x = new Counted();
         due("10: nothing was dealt", STATE, x.fits(0, 0));
         for (int n : new int[] {-1, 23, LOW, HIGH}) {
             due("10: OUTSIDE is first, v", OUTSIDE, x.fits(n, 0));
@@ -625,9 +599,8 @@ public final class PromisesTest {
         }
         int[] values = {22, 3, 0, 7, 19};
         for (int n = 1; n <= 5; n++) {
-            fill(x, 0, values);
-            order(x, "d" + n);
             for (int at = 0; at <= 22; at++) {
+                x = Counted.dealt(Arrays.copyOf(values, n));
                 for (int v = 0; v <= 22; v++) {
                     int want = at(at, Arrays.copyOf(values, n)) == v ? 1 : 0;
                     due("10: fits " + v + " at " + at, want, x.fits(v, at));
@@ -639,10 +612,10 @@ public final class PromisesTest {
     }
 
     private static void seal() {
-        FreshShares x = new FreshShares();
+        Counted x = new Counted();
         due("11: nothing was dealt", STATE, x.seal(0));
         due("11: nothing was dealt", STATE, x.seal(-1));
-        x = dealt(17, 5, 9);
+        x = Counted.dealt(17, 5, 9);
         due("11: seal 0", 27, x.seal(0));
         due("11: seal 2", 25, x.seal(2));
         for (int j : new int[] {-1, 3, 4, 5, LOW, HIGH}) {
@@ -651,11 +624,12 @@ public final class PromisesTest {
     }
 
     private static void weighs() {
-        FreshShares x = new FreshShares();
+        Counted x = new Counted();
         due("12: 1 of 1, 2", 2, x.weighs(1, 6, 0));
         due("12: 2 of 1, 2", 22, x.weighs(2, 6, 0));
         due("12: alone", 1, x.weighs(7, 128, 22));
         for (int set = 2; set <= 254; set += 2) {
+            x = new Counted();
             for (int at = 0; at <= 22; at++) {
                 int sum = 0;
                 int atNumbers = 0;
@@ -677,6 +651,7 @@ public final class PromisesTest {
                 }
             }
         }
+        x = new Counted();
         for (int m : new int[] {0, -1, 8, 33, -31, LOW, HIGH}) {
             due("12: no member", UNKNOWN, x.weighs(m, 254, 0));
         }
@@ -692,10 +667,10 @@ public final class PromisesTest {
     }
 
     private static void loot() {
-        FreshShares x = dealt(9, 1, 2);
-        order(x, "s1");
-        order(x, "f");
-        order(x, "s3");
+        Counted x = Counted.dealt(9, 1, 2);
+        x.order("s1");
+        x.order("f");
+        x.order("s3");
         due("13: member", 1, x.loot(0, 0));
         due("13: epoch", 0, x.loot(0, 1));
         due("13: share", 12, x.loot(0, 2));
@@ -712,31 +687,31 @@ public final class PromisesTest {
     }
 
     private static void worlds() {
-        FreshShares x = new FreshShares();
+        Counted x = new Counted();
         due("14: nothing was dealt", OUTSIDE, x.worlds(0, 0));
-        fill(x, 0, 9, 1, 2, 3, 4);
+        x.fill(0, 9, 1, 2, 3, 4);
         int[] powers = {1, 23, 529, 12167, 279841};
         for (int n = 1; n <= 5; n++) {
-            order(x, "d" + n);
+            x.order("d" + n);
             for (int stolen = 0; stolen < n; stolen++) {
                 for (int v = 0; v <= 22; v += 3) {
                     due("14: " + stolen + " of " + n, powers[n - 1 - stolen], x.worlds(n - 1, v));
                 }
-                order(x, "s" + (stolen + 1));
+                x.order("s" + (stolen + 1));
             }
-            order(x, "s1");
+            x.order("s1");
             for (int v = 0; v <= 22; v++) {
                 due("14: enough", v == 9 ? 1 : 0, x.worlds(n - 1, v));
             }
         }
-        x = dealt(9, 1);
+        x = Counted.dealt(9, 1);
         for (int m = 1; m <= 7; m++) {
-            order(x, "s" + m);
+            x.order("s" + m);
         }
         due("14: all", 1, x.worlds(0, 9));
         due("14: all", 0, x.worlds(0, 10));
-        order(x, "t47123");
-        order(x, "t41237");
+        x.order("t47123");
+        x.order("t41237");
         due("14: an older threshold", 1, x.worlds(0, 9));
         due("14: the new one", 12167, x.worlds(1, 9));
         for (int v : new int[] {-1, 23, LOW, HIGH}) {
@@ -748,60 +723,60 @@ public final class PromisesTest {
     }
 
     private static void thief() {
-        FreshShares x = new FreshShares();
+        Counted x = new Counted();
         for (int what = 0; what <= 2; what++) {
             due("15: nothing was dealt", STATE, x.thief(what));
         }
         for (int what : new int[] {-1, 3, LOW, HIGH}) {
             due("15: OUTSIDE is first", OUTSIDE, x.thief(what));
         }
-        x = dealt(9, 1, 2);
+        x = Counted.dealt(9, 1, 2);
         for (int what = 0; what <= 2; what++) {
             due("15: no loot", NONE, x.thief(what));
         }
         for (String text : new String[] {"s3", "s1", "s1", "s3"}) {
-            order(x, text);
+            x.order(text);
         }
         for (int what = 0; what <= 2; what++) {
             due("15: twice the same is no more", NONE, x.thief(what));
         }
-        fill(x, 4, 0, 7, 0);
-        fill(x, 6, 0, 0, 3);
-        order(x, "f");
-        order(x, "s5");
+        x.fill(4, 0, 7, 0);
+        x.fill(6, 0, 0, 3);
+        x.order("f");
+        x.order("s5");
         due("15: of no epoch enough", NONE, x.thief(0));
         due("15: none", NONE, x.thief(1));
         due("15: mixed", 10, x.thief(2));
-        order(x, "s1");
-        order(x, "s7");
+        x.order("s1");
+        x.order("s7");
         due("15: of epoch 1", 1, x.thief(0));
         due("15: the secret", 9, x.thief(1));
         due("15: the first loots of the first members", 10, x.thief(2));
         x.row(0, 0, 20);
-        order(x, "d1");
-        order(x, "s7");
+        x.order("d1");
+        x.order("s7");
         due("15: still epoch 1", 1, x.thief(0));
         due("15: its secret", 9, x.thief(1));
         due("15: by the threshold now", 12, x.thief(2));
-        order(x, "t57");
+        x.order("t57");
         due("15: fewer than the threshold now", NONE, x.thief(2));
         due("15: the old one stays", 9, x.thief(1));
     }
 
     private static void image() {
-        FreshShares x = dealt(9, 1, 2);
+        Counted x = Counted.dealt(9, 1, 2);
         due("16: image 0", 1, x.image(0));
         due("18: kept", 1, x.count(7));
-        order(x, "w1");
+        x.order("w1");
         due("16: image 1", 1, x.image(1));
         due("18: kept", 3, x.count(7));
         x.restore(0);
         due("16: as it was in 0", 254, x.count(3));
         x.restore(1);
         due("16: as it was in 1", 252, x.count(3));
-        order(x, "w2");
+        x.order("w2");
         x.image(0);
-        order(x, "d1");
+        x.order("d1");
         x.restore(0);
         due("16: in place of what was kept", 248, x.count(3));
         for (int k : new int[] {-1, 2, 32, LOW, HIGH}) {
@@ -811,70 +786,70 @@ public final class PromisesTest {
     }
 
     private static void restore() {
-        FreshShares x = new FreshShares();
+        Counted x = new Counted();
         for (int k : new int[] {-1, 2, 32, LOW, HIGH}) {
             due("17: no image", OUTSIDE, x.restore(k));
         }
         due("17: nothing was kept", NO, x.restore(0));
         x.image(1);
         due("17: nothing was kept in 0", NO, x.restore(0));
-        fill(x, 0, 9, 1, 2);
-        order(x, "d3");
+        x.fill(0, 9, 1, 2);
+        x.order("d3");
         due("17: a new object", 1, x.restore(1));
         due("17: nothing was dealt", NONE, x.count(0));
         due("17: no seals", STATE, x.seal(0));
         due("17: dealer's row", 0, x.row(0, 0, 9));
         due("17: which it was", 0, x.row(0, 1, 1));
-        order(x, "d2");
+        x.order("d2");
         due("17: the first epoch again", 0, x.count(1));
-        fill(x, 3, 1, 2, 3, 4, 5);
+        x.fill(3, 1, 2, 3, 4, 5);
         for (int what = 0; what <= 3; what++) {
             x.bent(3, what, 6);
         }
         x.bent(3, 4, 0);
         x.bent(5, 3, 3);
-        order(x, "s4");
-        order(x, "t3123");
-        order(x, "o13");
-        order(x, "t313");
+        x.order("s4");
+        x.order("t3123");
+        x.order("o13");
+        x.order("t313");
         x.image(0);
-        write(x, "o12");
+        x.write("o12");
         int[] before = facts(x);
-        fill(x, 3, 9, 9, 9, 9, 9);
+        x.fill(3, 9, 9, 9, 9, 9);
         for (int what = 0; what <= 3; what++) {
             x.bent(3, what, 1);
         }
         x.bent(3, 4, 1);
-        order(x, "d5");
-        order(x, "s4");
-        order(x, "w1");
+        x.order("d5");
+        x.order("s4");
+        x.order("w1");
         x.image(1);
-        write(x, "o12");
+        x.write("o12");
         due("17: restored", 1, x.restore(0));
         due("17: all as it was", 0, Arrays.compare(before, facts(x)));
         due("17: the text stays", 3, x.count(6));
         due("17: the other image stays", 3, x.count(7));
-        order(x, "w1");
+        x.order("w1");
         due("17: again", 1, x.restore(0));
         due("17: all as it was, again", 0, Arrays.compare(before, facts(x)));
         due("17: the text is as it is", 0, x.count(6));
     }
 
     private static void restoreAmongTwo() {
-        FreshShares x = dealt(9, 1, 2);
+        Counted x = Counted.dealt(9, 1, 2);
         x.image(0);
         x.bent(3, 4, 0);
         x.bent(5, 3, 3);
-        order(x, "t4124");
-        order(x, "t51247");
-        order(x, "f");
+        x.order("t4124");
+        x.order("t51247");
+        x.order("f");
         due("17: 3 is struck", 8, x.named(1));
         x.image(1);
-        order(x, "w1");
+        x.order("w1");
         x.restore(0);
         due("17: nobody is struck", 0, x.named(1));
         for (int k = 0; k < 4; k++) {
-            order(x, "d1");
+            x.order("d1");
         }
         due("17: another epoch 1", 1, x.count(11));
         x.restore(1);
@@ -888,7 +863,7 @@ public final class PromisesTest {
     }
 
     /** All that can be asked, but what tells of images. */
-    private static int[] facts(FreshShares x) {
+    private static int[] facts(Counted x) {
         int[] all = new int[256];
         int n = 0;
         for (int what = 0; what <= 5; what++) {
@@ -916,13 +891,13 @@ public final class PromisesTest {
     }
 
     private static void count() {
-        FreshShares x = dealt(9, 1, 2);
+        Counted x = Counted.dealt(9, 1, 2);
         due("18: threshold", 3, x.count(0));
         due("18: epoch", 0, x.count(1));
-        order(x, "w1");
-        order(x, "t2234");
-        order(x, "s5");
-        order(x, "o1");
+        x.order("w1");
+        x.order("t2234");
+        x.order("s5");
+        x.order("o1");
         due("18: threshold", 2, x.count(0));
         due("18: epoch", 1, x.count(1));
         due("18: how many have one", 6, x.count(2));
