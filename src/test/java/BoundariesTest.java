@@ -301,9 +301,16 @@ public final class BoundariesTest {
         refused("restore", make, NO, x -> x.restore(0));
     }
 
-    /** A state in which little is 0: 4 has no SHARE, 2 lies, 5 has a GRUDGE against 6, who does not ANSWER. */
     private static Counted dealtAndUsed() {
-        Counted x = Counted.dealt(17, 5, 9);
+        Counted x = new Counted();
+        use(x);
+        return x;
+    }
+
+    /** To a state in which little is 0: 4 has no SHARE, 2 lies, 5 has a GRUDGE against 6, who does not ANSWER. */
+    private static void use(Counted x) {
+        x.fill(0, 17, 5, 9);
+        x.order("d3");
         for (int m = 1; m <= 7; m++) {
             x.fill(m, m, m + 7, 22 - m, 11, 2 * m);
         }
@@ -316,7 +323,25 @@ public final class BoundariesTest {
         x.bent(5, GRUDGE, 6);
         x.bent(6, ANSWERS, 0);
         x.write("o1");
-        return x;
+    }
+
+    /** To a state that is another one wherever it can be. */
+    private static void useOtherwise(Counted x) {
+        x.fill(0, 1, 2, 3, 4, 5);
+        for (int m = 1; m <= 7; m++) {
+            x.fill(m, 20, 19, 18, m, m);
+            x.bent(m, LIE, m);
+            x.bent(m, FOE, m);
+            x.bent(m, SLIP, m);
+            x.bent(m, GRUDGE, m == 5 ? 7 : 0);
+        }
+        x.order("d5");
+        x.order("s7");
+        x.order("d1");
+        x.order("s6");
+        x.order("f");
+        x.order("w2");
+        x.order("s5");
     }
 
     private static void refusedOfDealt() {
@@ -732,6 +757,11 @@ public final class BoundariesTest {
         due("itself and enough others", 1, own.order("b4345"));
         names("who has no SHARE yet is no LIAR", own, 0, 0);
         due("it is the SHARE, not what it TELLS", at(4, 11, 3), own.member(4, 0));
+        Counted later = without(Counted.dealt(11, 3), 4);
+        later.row(1, 1, 22);
+        later.order("f");
+        due("what it had is of another EPOCH", 1, later.order("b456"));
+        holds("it is of this EPOCH", later, 254, 11, 2);
         Counted lying = without(Counted.dealt(11, 3), 4);
         lying.bent(1, LIE, 9);
         due("a LIAR too many", NO, lying.order("b412"));
@@ -813,6 +843,14 @@ public final class BoundariesTest {
         holds("none is TAKEN", all, 0, 20, 5);
         due("THE EPOCH is one more all the same", 1, all.count(1));
         due("f is done", 2, all.count(5));
+        Counted twice = Counted.dealt(20, 5);
+        twice.row(2, 1, 3);
+        twice.row(3, 1, 4);
+        due("all are TAKEN", 7, twice.order("f"));
+        twice.bent(2, ANSWERS, 0);
+        twice.bent(1, GRUDGE, 2);
+        due("2 is not TAKEN again", 6, twice.order("f"));
+        holds("2 is not TAKEN again", twice, 254 - set(2), 20, 5 + 3 + 4 + 4);
     }
 
     private static void spread() {
@@ -1433,6 +1471,16 @@ public final class BoundariesTest {
         due("1 of EPOCH 1 and 2 of EPOCH 0", (2 * 9 + 22 * 5) % 23, z.thief(2));
         z.order("t312");
         due("two are fewer than three", NONE, z.thief(2));
+        Counted rising = Counted.dealt(5);
+        rising.order("s7");
+        for (int secret : new int[] {9, 1, 13}) {
+            rising.row(0, 0, secret);
+            rising.order("d1");
+            rising.order("s" + (secret == 9 ? 3 : secret == 1 ? 5 : 2));
+        }
+        due("2 is the first", 13, rising.thief(2));
+        rising.order("d2");
+        due("2 and 3 are the first two", (3 * 13 + 21 * 9) % 23, rising.thief(2));
         Counted none = new Counted();
         for (int what : new int[] {LOW, -1, 3, HIGH}) {
             due("thief(" + what + ")", OUTSIDE, z.thief(what));
@@ -1503,6 +1551,19 @@ public final class BoundariesTest {
             without(y, 1, 2);
             y.order("f");
         }
+        Counted back = new Counted();
+        back.image(0);
+        use(back);
+        back.image(1);
+        back.restore(0);
+        useOtherwise(back);
+        back.restore(1);
+        back.write("o1");
+        Counted never = new Counted();
+        never.image(0);
+        use(never);
+        never.image(1);
+        due("all as it was", 1, facts(back).equals(facts(never)) ? 1 : 0);
     }
 
     private static void count() {
