@@ -336,10 +336,10 @@ public final class BoundariesTest {
             x.bent(m, GRUDGE, m == 5 ? 7 : 0);
         }
         x.order("d5");
-        x.order("s7");
         x.order("d1");
-        x.order("s6");
+        x.order("s7");
         x.order("f");
+        x.order("s6");
         x.order("w2");
         x.order("s5");
     }
@@ -1374,7 +1374,9 @@ public final class BoundariesTest {
         }
         Counted y = withLoot(2);
         due("the last", 2, y.loot(1, 0));
-        due("behind the last", NONE, y.loot(2, 0));
+        for (int i : new int[] {2, 3, 22, 23, 24}) {
+            due("behind the last, LOOT " + i, NONE, y.loot(i, 0));
+        }
     }
 
     private static void worlds() {
@@ -1438,6 +1440,10 @@ public final class BoundariesTest {
                 x.order("s7");
             }
         }
+        Counted one = Counted.dealt(9);
+        one.order("s4");
+        due("one LOOT, of one", 0, one.thief(0));
+        due("one LOOT, of one, its secret", 9, one.thief(1));
         Counted y = Counted.dealt(9, 1, 2);
         y.order("s1");
         y.order("s2");
