@@ -210,6 +210,11 @@ public final class BoundariesTest {
         Counted x = make.get();
         due(what, want, call.applyAsInt(x));
         Counted y = make.get();
+        names(what + ": as before", x, y.named(LIARS), y.named(STRUCK));
+        asBefore(what, x, y);
+    }
+
+    private static void asBefore(String what, Counted x, Counted y) {
         List<Integer> got = facts(x);
         List<Integer> before = facts(y);
         due(what + ": all as before", 1, got.equals(before) ? 1 : 0);
@@ -221,7 +226,14 @@ public final class BoundariesTest {
             x.write(text);
             return x;
         };
-        refused("act of '" + text + "'", saying, want, Counted::act);
+        if (want == FAULT) {
+            refused("act of '" + text + "'", saying, want, Counted::act);
+            return;
+        }
+        // the last ORDER is another one then
+        Counted x = saying.get();
+        due("act of '" + text + "'", want, x.act());
+        asBefore("act of '" + text + "'", x, saying.get());
     }
 
     /** What can be asked, but who is named; what the IMAGES keep comes last. */
@@ -307,7 +319,10 @@ public final class BoundariesTest {
         return x;
     }
 
-    /** To a state in which little is 0: 4 has no SHARE, 2 lies, 5 has a GRUDGE against 6, who does not ANSWER. */
+    /**
+     * To a state in which little is 0: 4 has no SHARE, 2 lies, 5 has a GRUDGE against 6, who does not ANSWER, and the last
+     * ORDER, which was refused, named 2 and 6.
+     */
     private static void use(Counted x) {
         x.fill(0, 17, 5, 9);
         x.order("d3");
@@ -322,6 +337,7 @@ public final class BoundariesTest {
         x.bent(2, LIE, 6);
         x.bent(5, GRUDGE, 6);
         x.bent(6, ANSWERS, 0);
+        x.order("t526");
         x.write("o1");
     }
 
@@ -346,6 +362,7 @@ public final class BoundariesTest {
 
     private static void refusedOfDealt() {
         Supplier<Counted> make = BoundariesTest::dealtAndUsed;
+        names("at first", dealtAndUsed(), set(2), set(6));
         refusedOfAll(make);
         for (String text : new String[] {"o1", "o12", "o124", "b1234", "b412", "b4124", "t512", "t5126", "t112467", "s4"}) {
             refusedAct(text, make, NO);
