@@ -1292,6 +1292,8 @@ public final class BoundariesTest {
         last.bent(3, GRUDGE, 2);
         due("EPOCH 199 comes", 6, last.order("f"));
         names("2 is STRUCK", last, 0, set(2));
+        due("f once more", FULL, last.order("f"));
+        names("nobody is STRUCK by what is refused", last, 0, 0);
         for (String text : new String[] {"f", "d1", "t11", "t1134"}) {
             last.order("o13");
             names("1 is a LIAR", last, set(1), 0);
