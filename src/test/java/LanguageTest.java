@@ -239,8 +239,12 @@ public final class LanguageTest {
             if (!isPublic && FACE.contains(name)) {
                 report(1, name + " of " + method.getEnclosingElement() + " bears the name of a public method");
             }
-            if (method.getModifiers().contains(Modifier.PROTECTED) || !tree.getThrows().isEmpty()) {
-                report(1, method + " is protected, or throws");
+            boolean isOuter = method.getEnclosingElement().getSimpleName().contentEquals("FreshShares");
+            if (isOuter && !isPublic && !method.getModifiers().contains(Modifier.PRIVATE)) {
+                report(1, method + " is seen from without");
+            }
+            if (!tree.getThrows().isEmpty()) {
+                report(6, method + " throws");
             }
             if (tree.getParameters().size() > PARAMETERS) {
                 report(11, method + " takes too many parameters");
